@@ -14,6 +14,7 @@ public final class AskTest {
         noScore();
         scoreRefuses();
         suggestOrders();
+        suggestTellsScoresThatDifferByOne();
         suggestTakesFreeLikelyBags();
         suggestRefuses();
         sameDigits();
@@ -161,6 +162,26 @@ public final class AskTest {
             c.due("suggest(1, " + rank + ")", x.suggest(1, rank), due[rank]);
         }
         c.due("suggest(1, 5)", x.suggest(1, 5), Checks.NO_SUCH);
+    }
+
+    private static void suggestTellsScoresThatDifferByOne() {
+        LuggageTracing x = new LuggageTracing();
+        x.claim(0, 0, 0, 0, 255, 1, 0, 0);
+        x.found(0, 0, 0, 0, 0, 0);
+        x.pass(1);
+        x.found(0, 0, 0, 0, 0, 0);
+        c.due("suggest(1, 0) of 85 and 84", x.suggest(1, 0), 1);
+        c.due("suggest(1, 1) of 85 and 84", x.suggest(1, 1), 2);
+        x.claim(0, 0, 0, 0, 255, 1, 0, 0);
+        c.due("suggest(2, 0) of the later bag alone", x.suggest(2, 0), 2);
+        x.claim(0, 0, 0, 1, 255, 1, 0, 1);
+        x.found(0, 0, 0, 0, 0, 1);
+        c.due("suggest(3, 0) of 83, 82 and 89", x.suggest(3, 0), 3);
+        c.due("suggest(3, 1) of 83, 82 and 89", x.suggest(3, 1), 1);
+        c.due("suggest(3, 2) of 83, 82 and 89", x.suggest(3, 2), 2);
+        x.auction(1);
+        x.undo();
+        c.due("suggest(1, 3) of three bags", x.suggest(1, 3), Checks.NO_SUCH);
     }
 
     private static void suggestTakesFreeLikelyBags() {

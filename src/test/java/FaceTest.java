@@ -1,13 +1,18 @@
+import java.io.IOException;
 import java.lang.management.ManagementFactory;
 import java.lang.reflect.Constructor;
 import java.lang.reflect.Field;
 import java.lang.reflect.Method;
 import java.lang.reflect.Modifier;
+import java.nio.file.Files;
+import java.nio.file.Path;
+import java.util.ArrayList;
 import java.util.Arrays;
 import java.util.HashSet;
 import java.util.List;
 import java.util.Set;
 import java.util.TreeSet;
+import java.util.regex.Pattern;
 
 /** The public face, the bounds of LANGUAGE.md that reflection can see, and the room that calls take. */
 public final class FaceTest {
@@ -24,11 +29,12 @@ public final class FaceTest {
             "public int syntaxError()", "public int readBags()", "public int problem(int)",
             "public int undo()", "public long digest()");
 
-    public static void main(String[] args) {
+    public static void main(String[] args) throws IOException {
         constants();
         publicMembers();
         hiddenMembers();
         sizes();
+        words();
         room();
         c.end();
     }
@@ -107,8 +113,24 @@ public final class FaceTest {
         }
     }
 
+    private static void words() throws IOException {
+        String source = Files.readString(Path.of("src/main/java/LuggageTracing.java"));
+        String code = source.replaceAll("//.*", "").replaceAll("(?s)/[*].*?[*]/", "");
+        for (String word : List.of("throw", "throws", "try", "catch", "synchronized", "assert", "instanceof", "var",
+                "Random", "System.nanoTime", "System.currentTimeMillis", "System.out", "Thread", "float", "double")) {
+            c.holds("no word " + word, !Pattern.compile("\\b" + Pattern.quote(word) + "\\b").matcher(code).find());
+        }
+        for (String sign : List.of("->", "::", "\"", "@", "static {")) {
+            c.holds("no sign " + sign, !code.contains(sign));
+        }
+        c.holds("signs 1 to 127 alone", source.chars().allMatch(sign -> sign >= 1 && sign <= 127));
+        c.holds("no package line", !Pattern.compile("(?m)^package ").matcher(code).find());
+        c.holds("java.util.Arrays is the one import", code.split("import ").length == 2
+                && code.contains("import java.util.Arrays;"));
+    }
+
     private static List<Class<?>> classes() {
-        List<Class<?>> all = new java.util.ArrayList<>(Arrays.asList(LuggageTracing.class.getDeclaredClasses()));
+        List<Class<?>> all = new ArrayList<>(Arrays.asList(LuggageTracing.class.getDeclaredClasses()));
         all.add(LuggageTracing.class);
         return all;
     }

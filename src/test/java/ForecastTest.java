@@ -7,6 +7,8 @@ public final class ForecastTest {
         bestTotalBeatsTheGreedyOne();
         bestTotalLeavesOutTheUnlikely();
         bestTotalOfAFullOffice();
+        bestTotalMovesAWholeChain();
+        bestTotalFindsTheLastBag();
         totalOfAll();
         forecastsChangeNothing();
         thresholdFor();
@@ -79,6 +81,51 @@ public final class ForecastTest {
         c.due("totalOfAll() of a full office", x.totalOfAll(), due);
         c.due("matchAll()", x.matchAll(), 10);
         c.due("bestTotal() after matchAll()", x.bestTotal(), 0);
+    }
+
+    // With the weight of the airport alone, a pair is likely if the airport is in the route, with the score 50.
+    private static LuggageTracing airportsAlone() {
+        LuggageTracing x = new LuggageTracing();
+        for (int weight = 0; weight < 6; weight++) {
+            x.setWeight(weight, weight == 4 ? 50 : 0);
+        }
+        x.setThreshold(0);
+        return x;
+    }
+
+    private static void bestTotalMovesAWholeChain() {
+        LuggageTracing x = airportsAlone();
+        for (int airport = 0; airport < 8; airport++) {
+            x.found(airport, 0, 0, 0, 0, 0);
+        }
+        for (int i = 0; i < 7; i++) {
+            x.claim(0, 0, 0, 0, 3 << i, 1, 0, 0);
+        }
+        x.claim(0, 0, 0, 0, 1, 1, 0, 0);
+        c.due("bestTotal() of a chain", x.bestTotal(), 400);
+        c.due("bestTotal() of a chain once more", x.bestTotal(), 400);
+        c.due("totalOfAll() of a chain", x.totalOfAll(), 350);
+        x.claim(0, 0, 0, 0, 255, 1, 0, 0);
+        c.due("bestTotal() of more claims than bags", x.bestTotal(), 400);
+        x.match(1, 1);
+        c.due("bestTotal() when the chain has lost its first bag", x.bestTotal(), 350);
+        c.due("matchAll()", x.matchAll(), 7);
+    }
+
+    private static void bestTotalFindsTheLastBag() {
+        LuggageTracing x = airportsAlone();
+        for (int i = 0; i < 11; i++) {
+            x.found(0, 0, 0, 0, 0, 0);
+        }
+        x.found(7, 0, 0, 0, 0, 0);
+        for (int i = 0; i < 9; i++) {
+            x.claim(0, 0, 0, 0, 2, 1, 0, 0);
+        }
+        c.due("bestTotal() without a likely pair", x.bestTotal(), 0);
+        x.claim(0, 0, 0, 0, 128, 1, 0, 0);
+        c.due("bestTotal() of the last claim with the last bag", x.bestTotal(), 50);
+        c.due("totalOfAll() of the last claim with the last bag", x.totalOfAll(), 50);
+        c.due("suggest(10, 0)", x.suggest(10, 0), 12);
     }
 
     private static void totalOfAll() {

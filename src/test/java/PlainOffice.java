@@ -394,6 +394,14 @@ final class PlainOffice {
         return bags.length;
     }
 
+    int lastBag() {
+        return s.nextBag - 1;
+    }
+
+    int lastClaim() {
+        return s.nextClaim - 1;
+    }
+
     int problem(int what) {
         if (!in(what, 0, 2)) return BAD_VALUE;
         return problem == null ? NONE : problem[what];

@@ -33,9 +33,30 @@ public final class RandomRunsTest {
             } else if (random.nextInt(12) == 0) {
                 text();
             } else {
-                call(random.nextInt(27), pick(0, 13), pick(0, 13));
+                oneCall();
             }
         }
+    }
+
+    private void oneCall() {
+        int which = random.nextInt(27);
+        if (which == 11) {
+            call(which, pick(0, 7), 0);
+        } else if (which == 9) {
+            call(which, number(due.lastBag()), 0);
+        } else if (which == 12) {
+            call(which, number(due.lastBag()), pick(0, 7));
+        } else if (which == 13) {
+            call(which, number(due.lastClaim()), pick(0, 8));
+        } else if (which == 15 || which == 16) {
+            call(which, number(due.lastClaim()), pick(0, 4));
+        } else {
+            call(which, number(due.lastClaim()), number(due.lastBag()));
+        }
+    }
+
+    private int number(int last) {
+        return pick(Math.max(0, last - 12), last);
     }
 
     private int pick(int least, int greatest) {

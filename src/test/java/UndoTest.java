@@ -68,7 +68,7 @@ public final class UndoTest {
         switch (call) {
             case 0: x.setWeight(0, 9); break;
             case 1: x.setThreshold(10); break;
-            case 2: x.setMoney(31, 1000); break;
+            case 2: x.setMoney(30, 100); break;
             case 3: x.found(1, 2, 3, 4, 5, 6); break;
             case 4: x.claim(1, 2, 3, 4, 5, 6, 7, 8); break;
             case 5: x.match(1, 1); break;
