@@ -17,6 +17,7 @@ public final class AskTest {
         suggestTellsScoresThatDifferByOne();
         suggestTakesFreeLikelyBags();
         suggestRefuses();
+        suggestNeedsAClaim();
         sameDigits();
         c.end();
     }
@@ -219,6 +220,22 @@ public final class AskTest {
         for (int rank : new int[] {-1, 99, Integer.MIN_VALUE, Integer.MAX_VALUE}) {
             c.due("suggest(1, " + rank + ")", x.suggest(1, rank), Checks.NO_SUCH);
         }
+    }
+
+    // With these weights even a bag without anything in common with a claim is likely.
+    private static void suggestNeedsAClaim() {
+        LuggageTracing x = new LuggageTracing();
+        for (int weight = 0; weight < 6; weight++) {
+            x.setWeight(weight, 0);
+        }
+        x.setThreshold(0);
+        x.found(1, 0, 63, 0, 0, 0);
+        for (int none : NO_NUMBERS) {
+            c.due("suggest(" + none + ", 0) at the threshold 0", x.suggest(none, 0), Checks.NO_SUCH);
+        }
+        c.due("suggest(1, 0) without claims", x.suggest(1, 0), Checks.NO_SUCH);
+        x.claim(0, 0, 0, 0, 1, 1, 0, 0);
+        c.due("suggest(1, 0) with a claim", x.suggest(1, 0), 1);
     }
 
     private static void sameDigits() {
