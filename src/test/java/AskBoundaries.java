@@ -265,6 +265,11 @@ final class AskBoundaries {
         s.refused("suggest(11, 0) with ten claims", Offices::full, y -> y.suggest(11, 0), Checks.NO_SUCH);
         s.refused("suggest(1, 0) without claims", () -> Offices.withBagsAndClaims(1, 0), y -> y.suggest(1, 0),
                 Checks.NO_SUCH);
+        s.refused("suggest(1, 0) of a claim that is gone", Offices::leftWithABag, y -> y.suggest(1, 0), Checks.NO_SUCH);
+        for (int none : new int[] {0, -1, 1}) {
+            s.refused("suggest(" + none + ", 0) without claims, when every score is likely",
+                    AskBoundaries::everyScoreIsLikely, y -> y.suggest(none, 0), Checks.NO_SUCH);
+        }
 
         s.promise(18, "or if there are not so many such bags.");
         s.refused("suggest(1, 0) without bags", () -> Offices.withBagsAndClaims(0, 1), y -> y.suggest(1, 0),
@@ -273,10 +278,19 @@ final class AskBoundaries {
         s.due("suggest(1, 11) with twelve bags", Offices.withBagsAndClaims(12, 1).suggest(1, 11), 12);
         s.refused("suggest(1, 12) with twelve bags", () -> Offices.withBagsAndClaims(12, 1), y -> y.suggest(1, 12),
                 Checks.NO_SUCH);
+        s.refused("suggest(2, 0) of a bag that is gone", Offices::leftWithAClaim, y -> y.suggest(2, 0),
+                Checks.NO_SUCH);
         Supplier<LuggageTracing> matched = Offices::matchedPair;
         s.refused("suggest(1, 0) when the one bag is matched", matched, y -> y.suggest(1, 0), Checks.NO_SUCH);
         s.refused("suggest(1, max)", Offices::full, y -> y.suggest(1, Integer.MAX_VALUE), Checks.NO_SUCH);
         s.refused("suggest(1, min)", Offices::full, y -> y.suggest(1, Integer.MIN_VALUE), Checks.NO_SUCH);
+    }
+
+    private static LuggageTracing everyScoreIsLikely() {
+        LuggageTracing x = Offices.withBagsAndClaims(2, 0);
+        Offices.weights(x, 0, 0, 0, 0, 0, 0);
+        x.setThreshold(0);
+        return x;
     }
 
     private static int suggestedAfterTwelve() {

@@ -68,6 +68,15 @@ final class ForecastBoundaries {
         Offices.weights(z, 50, 50, 50, 50, 50, 50);
         z.setThreshold(200);
         s.due("bestTotal() of a full office with great weights", z.bestTotal(), 10 * 450);
+        for (int number = 0; number < Trying.OFFICES; number++) {
+            LuggageTracing tried = Trying.office(number);
+            for (int change = 1; change <= 3; change++) {
+                int best = Trying.bestSum(Trying.likely(tried, number));
+                s.due("bestTotal() of the full office " + number + ", change " + change, tried.bestTotal(), best);
+                s.due("bestTotal() of the full office " + number + " again", tried.bestTotal(), best);
+                tried.setWeight(change, 17 * change % 19 + number % 7);
+            }
+        }
 
         s.promise(20, "each of them likely");
         LuggageTracing w = Offices.pair();
@@ -103,6 +112,9 @@ final class ForecastBoundaries {
         s.due("bestTotal() without claims", Offices.withBagsAndClaims(12, 0).bestTotal(), 0);
         s.due("bestTotal() without free ones", Offices.matchedPair().bestTotal(), 0);
         s.due("bestTotal() without likely ones", Offices.pairOfUnlikely().bestTotal(), 0);
+        s.due("bestTotal() of a claim and a bag that are gone", withAirportWeight(Offices.leftEmpty()).bestTotal(), 0);
+        s.due("bestTotal() of a claim that is gone", withAirportWeight(Offices.leftWithABag()).bestTotal(), 0);
+        s.due("bestTotal() of a bag that is gone", withAirportWeight(Offices.leftWithAClaim()).bestTotal(), 0);
         LuggageTracing x = Offices.withBagsAndClaims(12, 10);
         x.matchAll();
         s.due("bestTotal() after matchAll()", x.bestTotal(), 0);
@@ -113,6 +125,12 @@ final class ForecastBoundaries {
         LuggageTracing x = new LuggageTracing();
         Offices.weights(x, 0, 0, 0, 0, 50, 0);
         x.setThreshold(0);
+        return x;
+    }
+
+    // Without a weight all scores are 0, and a sum with a claim or a bag that is gone would not show.
+    private static LuggageTracing withAirportWeight(LuggageTracing x) {
+        x.setWeight(4, 50);
         return x;
     }
 
@@ -137,6 +155,12 @@ final class ForecastBoundaries {
         z.setThreshold(86);
         s.due("totalOfAll() when the threshold is the score and 1", z.totalOfAll(), 0);
         s.due("totalOfAll() of a full office", Offices.withBagsAndClaims(12, 10).totalOfAll(), 850);
+        for (int number = 0; number < Trying.OFFICES; number++) {
+            LuggageTracing tried = Trying.office(number);
+            int[][] likely = Trying.likely(tried, number);
+            s.due("totalOfAll() of the full office " + number, tried.totalOfAll(),
+                    Trying.sumOf(likely, Trying.greatestFirst(likely)));
+        }
 
         s.promise(21, "0 without any.");
         s.due("totalOfAll() of an empty office", new LuggageTracing().totalOfAll(), 0);
@@ -144,6 +168,9 @@ final class ForecastBoundaries {
         s.due("totalOfAll() without claims", Offices.withBagsAndClaims(12, 0).totalOfAll(), 0);
         s.due("totalOfAll() without free ones", Offices.matchedPair().totalOfAll(), 0);
         s.due("totalOfAll() without likely ones", Offices.pairOfUnlikely().totalOfAll(), 0);
+        s.due("totalOfAll() of a claim and a bag that are gone", withAirportWeight(Offices.leftEmpty()).totalOfAll(), 0);
+        s.due("totalOfAll() of a claim that is gone", withAirportWeight(Offices.leftWithABag()).totalOfAll(), 0);
+        s.due("totalOfAll() of a bag that is gone", withAirportWeight(Offices.leftWithAClaim()).totalOfAll(), 0);
     }
 
     private void thresholdFor() {

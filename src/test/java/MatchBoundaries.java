@@ -175,6 +175,9 @@ final class MatchBoundaries {
         z.claim(0, 0, 0, 0, 1, 1, 0, 1);
         s.due("matchAll() of a bag found on the day of the flight", z.matchAll(), 1);
         s.due("claimOf(2, 8)", z.claimOf(2, 8), 1);
+        s.due("matchAll() of a claim and a bag that are gone", Offices.leftEmpty().matchAll(), 0);
+        s.due("matchAll() of a claim that is gone", Offices.leftWithABag().matchAll(), 0);
+        s.due("matchAll() of a bag that is gone", Offices.leftWithAClaim().matchAll(), 0);
 
         s.promise(9, "those with the greatest score are matched");
         LuggageTracing w = new LuggageTracing();
@@ -195,6 +198,15 @@ final class MatchBoundaries {
         s.due("score(2, 1, 0), which is greater by 1", v.score(2, 1, 0), 85);
         s.due("matchAll()", v.matchAll(), 1);
         s.due("bag(1, 7)", v.bag(1, 7), 2);
+        for (int number = 0; number < Trying.OFFICES; number++) {
+            LuggageTracing tried = Trying.office(number);
+            int[] bagOf = Trying.greatestFirst(Trying.likely(tried, number));
+            tried.matchAll();
+            for (int claim = 1; claim <= Trying.CLAIMS; claim++) {
+                s.due("claimOf(" + claim + ", 8) in the full office " + number, tried.claimOf(claim, 8),
+                        bagOf[claim - 1]);
+            }
+        }
 
         s.promise(9, "Undoable.");
         s.undoable("matchAll()", Offices::busy, u -> {

@@ -48,6 +48,29 @@ final class Offices {
         return x;
     }
 
+    /** A claim and a bag that are gone left this office; every score would be likely, as it is 0. */
+    static LuggageTracing leftEmpty() {
+        LuggageTracing x = pair();
+        weights(x, 0, 0, 0, 0, 0, 0);
+        x.setThreshold(0);
+        x.pass(90);
+        x.giveUp(1);
+        x.auction(1);
+        return x;
+    }
+
+    static LuggageTracing leftWithABag() {
+        LuggageTracing x = leftEmpty();
+        bag(x);
+        return x;
+    }
+
+    static LuggageTracing leftWithAClaim() {
+        LuggageTracing x = leftEmpty();
+        claim(x);
+        return x;
+    }
+
     static LuggageTracing withText(String text) {
         LuggageTracing x = new LuggageTracing();
         Checks.typeAll(x, text);

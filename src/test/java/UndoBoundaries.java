@@ -48,7 +48,7 @@ final class UndoBoundaries {
         saves(27, sentence, "readBags()", LuggageTracing::readBags);
     }
 
-    // A busy office has three saved states and so has room for a fourth.
+    // A busy office has three saved states, so there is room for a fourth one.
     private void saves(int promise, String sentence, String call, ToLongFunction<LuggageTracing> asked) {
         s.terms(promise, sentence);
         LuggageTracing x = Offices.busy();
