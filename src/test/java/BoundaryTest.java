@@ -43,23 +43,23 @@ public final class BoundaryTest {
                 + "weights, suggestions, matches by hand and of all at once, the best total that matches could have, "
                 + "deliveries and claims that are given up with what is paid for them, auctions, and bags that are read "
                 + "from a text with the reasons of refusals.");
-        bullets("- `claim`: number of the claim", 7, 8, 10, 11, 16, 17, 18, 19, 22, 23);
-        bullets("- `bag`: number of the bag", 7, 12, 15, 17, 19, 22);
-        bullets("Returns the number", 14, 15, 16, 28);
-        bullets("Returns a number of the office.", 14);
-        bullets("Returns something about a bag.", 15);
-        bullets("Returns something about a claim.", 16);
-        bullets("Returns a score, or a part of it.", 17);
-        bullets("Returns the score", 17);
-        bullets("Suggests a bag for a claim: ", 18);
-        bullets("Returns the sum", 20, 21);
-        bullets("Returns the threshold", 22);
-        bullets("Finds the first syntax error of the text.", 26);
-        bullets("Computes a hash of the state.", 30);
-        bullets("Returns the hash.", 30);
+        ofPromises("- `claim`: number of the claim", 7, 8, 10, 11, 16, 17, 18, 19, 22, 23);
+        ofPromises("- `bag`: number of the bag", 7, 12, 15, 17, 19, 22);
+        ofPromises("Returns the number", 14, 15, 16, 28);
+        ofPromises("Returns a number of the office.", 14);
+        ofPromises("Returns something about a bag.", 15);
+        ofPromises("Returns something about a claim.", 16);
+        ofPromises("Returns a score, or a part of it.", 17);
+        ofPromises("Returns the score", 17);
+        ofPromises("Suggests a bag for a claim: ", 18);
+        ofPromises("Returns the sum", 20, 21);
+        ofPromises("Returns the threshold", 22);
+        ofPromises("Finds the first syntax error of the text.", 26);
+        ofPromises("Computes a hash of the state.", 30);
+        ofPromises("Returns the hash.", 30);
     }
 
-    private static void bullets(String words, int... promises) {
+    private static void ofPromises(String words, int... promises) {
         for (int promise : promises) {
             s.noBoundary(Sentences.heading(promise), words);
         }
