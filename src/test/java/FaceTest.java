@@ -1,18 +1,14 @@
-import java.io.IOException;
 import java.lang.management.ManagementFactory;
 import java.lang.reflect.Constructor;
 import java.lang.reflect.Field;
 import java.lang.reflect.Method;
 import java.lang.reflect.Modifier;
-import java.nio.file.Files;
-import java.nio.file.Path;
 import java.util.ArrayList;
 import java.util.Arrays;
 import java.util.HashSet;
 import java.util.List;
 import java.util.Set;
 import java.util.TreeSet;
-import java.util.regex.Pattern;
 
 /** The public face, the bounds of LANGUAGE.md that reflection can see, and the room that calls take. */
 public final class FaceTest {
@@ -29,12 +25,11 @@ public final class FaceTest {
             "public int syntaxError()", "public int readBags()", "public int problem(int)",
             "public int undo()", "public long digest()");
 
-    public static void main(String[] args) throws IOException {
+    public static void main(String[] args) {
         constants();
         publicMembers();
         hiddenMembers();
         sizes();
-        words();
         room();
         c.end();
     }
@@ -111,22 +106,6 @@ public final class FaceTest {
                         m.getParameterCount() <= 7 || m.getName().equals("claim"));
             }
         }
-    }
-
-    private static void words() throws IOException {
-        String source = Files.readString(Path.of("src/main/java/LuggageTracing.java"));
-        String code = source.replaceAll("//.*", "").replaceAll("(?s)/[*].*?[*]/", "");
-        for (String word : List.of("throw", "throws", "try", "catch", "synchronized", "assert", "instanceof", "var",
-                "Random", "System.nanoTime", "System.currentTimeMillis", "System.out", "Thread", "float", "double")) {
-            c.holds("no word " + word, !Pattern.compile("\\b" + Pattern.quote(word) + "\\b").matcher(code).find());
-        }
-        for (String sign : List.of("->", "::", "\"", "@", "static {")) {
-            c.holds("no sign " + sign, !code.contains(sign));
-        }
-        c.holds("signs 1 to 127 alone", source.chars().allMatch(sign -> sign >= 1 && sign <= 127));
-        c.holds("no package line", !Pattern.compile("(?m)^package ").matcher(code).find());
-        c.holds("java.util.Arrays is the one import", code.split("import ").length == 2
-                && code.contains("import java.util.Arrays;"));
     }
 
     private static List<Class<?>> classes() {
